@@ -146,7 +146,9 @@ public final class HerdBooks {
         if (!isThere(camp, week) || !told.land.hasCell(cell)) {
             return NONE;
         }
-        return whereBy(limit()).partsOf(told, camp, cell, week);
+        Where where = whereBy(limit());
+        where.reach(told, camp, week);
+        return where.partsAt(camp, cell, week);
     }
 
     public int likeliest(int camp, int week) {
@@ -354,6 +356,7 @@ public final class HerdBooks {
         if (!told.herds.hasCamp(camp) || !isIn(grams, 1, MAX_LOAD) || !isIn(what, 0, 2)) {
             return NONE;
         }
+        gatherCamp(camp, told.week, limit());
         offerBooks(camp);
         box.choose(told, camp, grams);
         switch (what) {
@@ -535,9 +538,10 @@ public final class HerdBooks {
         Where where = whereBy(limit());
         Arrays.fill(sums, 0);
         for (int camp = 0; camp < told.herds.camps; camp++) {
+            where.reach(told, camp, to);
             for (int week = Math.max(from, told.herds.firstWeeks[camp]); week <= to; week++) {
                 for (int cell = 0; cell < told.land.cells; cell++) {
-                    sums[cell] += where.partsOf(told, camp, cell, week);
+                    sums[cell] += where.partsAt(camp, cell, week);
                 }
             }
         }
@@ -552,11 +556,11 @@ public final class HerdBooks {
         return true;
     }
 
+    /** Behind gatherCamp. */
     private void offerBooks(int camp) {
         Shelf shelf = told.shelf;
         int week = told.week;
         box.clear();
-        gatherCamp(camp, week, limit());
         for (int book = 0; book < shelf.books; book++) {
             gatherBook(camp, book, week, limit());
             if (facts[FACT_TONGUE] == 1 && shelf.holder(book, week, limit()) == NONE
@@ -815,14 +819,13 @@ public final class HerdBooks {
             }
         }
 
-        /** For a WEEK that is not ahead of the CAMP's first one. */
-        int partsOf(Told told, int camp, int cell, int week) {
-            workOut(told, camp, week);
+        /** For a WEEK that was reached and is not ahead of the CAMP's first one. */
+        int partsAt(int camp, int cell, int week) {
             return parts[rowOf(camp, week) + cell];
         }
 
         int likeliestOf(Told told, int camp, int week) {
-            workOut(told, camp, week);
+            reach(told, camp, week);
             int row = rowOf(camp, week);
             int best = 0;
             for (int cell = 1; cell < MAX_CELLS; cell++) {
@@ -836,7 +839,7 @@ public final class HerdBooks {
         int quarrelOf(Told told, int camp, int k) {
             Herds herds = told.herds;
             int found = 0;
-            workOut(told, camp, told.week);
+            reach(told, camp, told.week);
             for (int week = herds.firstWeeks[camp]; week <= told.week; week++) {
                 for (int i = 0; i < herds.news; i++) {
                     if (herds.isNewsOf(i, camp, week, limit) && quarrels[i] == 1) {
@@ -854,11 +857,18 @@ public final class HerdBooks {
             return (camp * WEEKS + week) * MAX_CELLS;
         }
 
-        private void workOut(Told told, int camp, int week) {
+        private void clearRow(int row) {
+            for (int cell = 0; cell < MAX_CELLS; cell++) {
+                parts[row + cell] = 0;
+            }
+        }
+
+        /** Works out the PARTS of a CAMP up to a WEEK, as far as they are not known yet. */
+        void reach(Told told, int camp, int week) {
             int first = told.herds.firstWeeks[camp];
             for (int w = Math.max(first, knownTo[camp] + 1); w <= week; w++) {
                 int row = rowOf(camp, w);
-                Arrays.fill(parts, row, row + MAX_CELLS, 0);
+                clearRow(row);
                 if (w == first) {
                     parts[row + told.herds.firstCells[camp]] = MILLION;
                 } else {
@@ -907,7 +917,7 @@ public final class HerdBooks {
             if (parts[row + cell] == 0) {
                 return false;
             }
-            Arrays.fill(parts, row, row + MAX_CELLS, 0);
+            clearRow(row);
             parts[row + cell] = MILLION;
             return true;
         }

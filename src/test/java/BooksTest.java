@@ -10,6 +10,7 @@ public final class BooksTest {
         booksTold();
         lends();
         lendsByRules();
+        actsWhateverTheView();
         passes();
         givesBack();
         tears();
@@ -96,6 +97,44 @@ public final class BooksTest {
         CHECK.due("not seen by the view", x.who(0, 6), 0);
         x.view(NONE);
         CHECK.due("seen now", x.who(0, 6), 1);
+    }
+
+    /** What can be, LENGTH and COST go by all ACTS, whatever THE VIEW. */
+    private static void actsWhateverTheView() {
+        HerdBooks x = library();
+        x.lend(0, 0);
+        x.week(3);
+        x.pass(0, 1, 2);
+        x.tear(0, 40, 2);
+        x.view(1);
+        CHECK.due("the second camp has it now", x.pass(0, 1, 3), NONE);
+        CHECK.due("passed on", x.pass(0, 0, 3), 3);
+        CHECK.due("pages that are left now", x.tear(0, 61, 3), NONE);
+        Check.rules(x, "if left = 60: cost 3; if torn = 40: cost 5; cost 1; if left = 60: weeks 8;");
+        x.tear(0, 10, 2);
+        CHECK.due("cost by what is left now", x.act(4, 6), 3);
+        CHECK.due("by the camp that has it now", x.act(4, 2), 1);
+        Check.rules(x, "if torn = 50: cost 5; cost 1; if left = 50: weeks 8;");
+        x.tear(0, 1, 2);
+        CHECK.due("cost by what is torn now", x.act(5, 6), 5);
+        x.back(0);
+        Check.rules(x, "if left = 49: weeks 8;");
+        CHECK.due("lent", x.lend(0, 2), 7);
+        CHECK.due("length by what is left now", x.act(7, 5), 8);
+        CHECK.due("due as known then", x.due(0, 3), 4);
+        x.view(2);
+        CHECK.due("as known in 2", x.who(0, 3), 0);
+        x.view(3);
+        CHECK.due("as known in 3", x.who(0, 3), 2);
+        CHECK.due("due as known in 3", x.due(0, 3), 11);
+        HerdBooks y = library();
+        y.lend(0, 0);
+        y.week(2);
+        y.back(0);
+        y.view(1);
+        CHECK.due("due as known then, by who has it then", y.due(0, 2), 4);
+        y.view(2);
+        CHECK.due("in the shed as known now", y.due(0, 2), NONE);
     }
 
     private static void passes() {

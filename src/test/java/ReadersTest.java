@@ -10,9 +10,11 @@ public final class ReadersTest {
         booksRead();
         levels();
         nextBooks();
+        nextFarOff();
         nextInView();
         givers();
         oneKindHidden();
+        leastKindHidden();
         CHECK.close();
     }
 
@@ -115,6 +117,20 @@ public final class ReadersTest {
         CHECK.due("of the other tongue", x.learns(1, 3), 0);
     }
 
+    private static void nextFarOff() {
+        HerdBooks x = camps();
+        x.reader(0);
+        for (int i = 0; i < 9; i++) {
+            x.book(0, 0, 9, 1, 1);
+            x.read(0, i);
+        }
+        x.book(0, 0, 0, 1, 1);
+        // LEVEL 9: a BOOK of LEVEL 0 is 10 from its own and 1, and the only one.
+        CHECK.due("far off, but the only one", x.learns(0, 3), 9);
+        x.book(0, 0, 9, 1, 1);
+        CHECK.due("1 from it", x.learns(0, 3), 10);
+    }
+
     private static void nextInView() {
         HerdBooks x = camps();
         x.reader(0);
@@ -187,5 +203,20 @@ public final class ReadersTest {
         read(x, 6, 3);
         CHECK.due("none is hidden", x.giver(7), 3);
         CHECK.due("none of both", x.giver(6), 3);
+    }
+
+    private static void leastKindHidden() {
+        HerdBooks x = kinds();
+        read(x, 0, 1);
+        read(x, 7, 12);
+        CHECK.due("kind 0 is hidden", x.giver(0), HIDDEN);
+        CHECK.due("12 goes with it", x.giver(7), HIDDEN);
+        HerdBooks y = kinds();
+        read(y, 0, 4);
+        read(y, 1, 4);
+        read(y, 7, 2);
+        CHECK.due("of several the least kind", y.giver(0), HIDDEN);
+        CHECK.due("not the other", y.giver(1), 4);
+        CHECK.due("kind 7 is hidden", y.giver(7), HIDDEN);
     }
 }

@@ -12,13 +12,16 @@ public final class RoundsTest {
         stopsInOrder();
         passedCellsCountForNothing();
         shedWithWell();
+        tenCells();
         roundInWeekAndView();
         wishes();
         wrongLoads();
         loadByWorth();
         loadsAlike();
+        loadOfAllKinds();
         booksForALoad();
         loadInView();
+        loadByRulesInView();
         CHECK.close();
     }
 
@@ -179,6 +182,23 @@ public final class RoundsTest {
         round(y, 0, 60, 0, 0, 0);
     }
 
+    private static void tenCells() {
+        boolean[] wells = new boolean[10];
+        java.util.Arrays.fill(wells, true);
+        HerdBooks x = row(wells);
+        x.camp(9, 0);
+        round(x, 0, 17, 0, 0, 0);
+        round(x, 0, 18, 1000000, 18, 1 << 9, 9);
+        x.way(0, 9, 1);
+        round(x, 0, 2, 1000000, 2, 1 << 9, 9);
+        // A ring now; in WEEK 1 a third lies in each of 8, 9 and 0.
+        round(x, 1, 2, 666667, 2, 1 << 9, 9);
+        round(x, 1, 4, 1000000, 4, 3 << 8, 8, 9);
+        // In WEEK 9 some lie in every CELL, and all of the ring is gone round.
+        round(x, 9, 10, 1000000, 10, 1022, 1, 2, 3, 4, 5, 6, 7, 8, 9);
+        round(x, 9, 60, 1000000, 10, 1022, 1, 2, 3, 4, 5, 6, 7, 8, 9);
+    }
+
     private static void roundInWeekAndView() {
         HerdBooks x = row(false, true, true);
         x.camp(1, 0);
@@ -271,6 +291,24 @@ public final class RoundsTest {
         load(x, 0, 150, 3, 90, 8);
     }
 
+    private static void loadOfAllKinds() {
+        HerdBooks x = row(false);
+        x.camp(0, 0);
+        for (int book = 0; book < 24; book++) {
+            x.book(book % 8, 0, 0, 1, 100 + (book + 8) % 24);
+        }
+        load(x, 0, 20000, 0, 0, 0);
+        for (int kind = 0; kind < 8; kind++) {
+            x.wish(0, kind, 1 << kind > 99 ? 99 : 1 << kind);
+        }
+        // The lightest of each KIND are BOOKS 16 .. 23, of 100 .. 107 grams.
+        load(x, 0, 20000, 226, 828, 255 << 16);
+        load(x, 0, 828, 226, 828, 255 << 16);
+        load(x, 0, 827, 225, 728, 254 << 16);
+        load(x, 0, 100, 1, 100, 1 << 16);
+        load(x, 0, 107, 99, 107, 1 << 23);
+    }
+
     private static void booksForALoad() {
         HerdBooks x = row(false);
         x.camp(0, 0);
@@ -319,5 +357,43 @@ public final class RoundsTest {
         load(x, 0, 1000, 0, 0, 0);
         x.view(1);
         load(x, 0, 1000, 7, 100, 1);
+    }
+
+    private static void loadByRulesInView() {
+        HerdBooks x = row(false);
+        x.camp(0, 0);
+        x.camp(0, 1);
+        x.book(0, 0, 0, 9, 100);
+        x.book(1, 0, 0, 9, 100);
+        x.wish(0, 0, 7);
+        x.wish(0, 1, 5);
+        x.lend(1, 0);
+        x.lend(0, 1);
+        x.week(1);
+        x.tear(0, 2, 1);
+        x.back(0);
+        x.week(2);
+        x.back(1);
+        Check.rules(x, "if left < 8: bar;");
+        load(x, 0, 1000, 0, 0, 0);
+        Check.rules(x, "if held > 0: bar;");
+        load(x, 0, 1000, 7, 100, 1);
+        x.view(1);
+        load(x, 0, 1000, 0, 0, 0);
+        HerdBooks y = row(false);
+        y.camp(0, 0);
+        y.camp(0, 1);
+        y.book(0, 0, 0, 9, 100);
+        y.wish(0, 0, 7);
+        y.lend(0, 1);
+        y.back(0);
+        y.week(2);
+        y.lend(0, 1);
+        y.tear(0, 5, 2);
+        y.back(0);
+        Check.rules(y, "if left < 8: bar;");
+        load(y, 0, 1000, 0, 0, 0);
+        y.view(1);
+        load(y, 0, 1000, 7, 100, 1);
     }
 }

@@ -7,6 +7,7 @@ public final class RulesTest {
     public static void main(String[] args) {
         tape();
         tapeBytes();
+        tapeIsCut();
         texts();
         brokenTexts();
         badWeeks();
@@ -67,6 +68,23 @@ public final class RulesTest {
         Check.type(x, 0, "ba");
         Check.type(x, 2, "r;");
         CHECK.due("a word in two feeds", x.rules(), 1);
+    }
+
+    /** What stood behind the cut counts for nothing. */
+    private static void tapeIsCut() {
+        HerdBooks x = new HerdBooks();
+        Check.type(x, 0, "weeks 55;");
+        x.end(7);
+        CHECK.due("no end of the line", x.rules(), NONE);
+        CHECK.due("its place", x.fault(1), 7);
+        Check.type(x, 0, "barbar;");
+        x.end(3);
+        CHECK.due("no end of the line", x.rules(), NONE);
+        CHECK.due("its place", x.fault(1), 3);
+        Check.type(x, 0, "weeks 1234567;");
+        x.end(8);
+        Check.type(x, 8, ";");
+        CHECK.due("weeks 12", x.rules(), 1);
     }
 
     private static void texts() {
