@@ -1273,7 +1273,7 @@ public final class HerdBooks {
             int tests = 0;
             if (isWord("if")) {
                 tests = parseTests(line);
-                if (fault == NO_TEXT || !takeSign(':')) {
+                if (tests == NONE || !takeSign(':')) {
                     return;
                 }
             }
@@ -1283,6 +1283,7 @@ public final class HerdBooks {
             }
         }
 
+        /** How many; NONE if the text breaks off. */
         private int parseTests(int line) {
             int tests = 0;
             do {
@@ -1290,9 +1291,11 @@ public final class HerdBooks {
                 if (tests == MAX_TESTS) {
                     note(TOO_MANY);
                 }
-                parseTest(line, tests);
+                if (!parseTest(line, tests)) {
+                    return NONE;
+                }
                 tests++;
-            } while (tests <= MAX_TAPE && fault != NO_TEXT && isWord("and"));
+            } while (tests <= MAX_TAPE && isWord("and"));
             return tests;
         }
 

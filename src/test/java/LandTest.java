@@ -235,7 +235,7 @@ public final class LandTest {
         y.way(0, 2, 1);
         y.grass(0, 0, 3);
         y.grass(1, 0, 3);
-        // Rests 4, 4 and 1 of 7, and one is left: to the least of the greatest.
+        // Rests 3, 3 and 1 of 7, and one is left: to the least of the greatest.
         parts(y, 0, 1, 428572, 428571, 142857);
     }
 

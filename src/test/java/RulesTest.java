@@ -126,6 +126,10 @@ public final class RulesTest {
         text("if dry;bar;", NONE, 1, 6);
         text("gibe;", NONE, 1, 0);
         text("barx;", NONE, 1, 0);
+        text("far;", NONE, 1, 0);
+        text("bay;", NONE, 1, 0);
+        text("if cry:bar;", NONE, 1, 3);
+        text("if dry ant dry:bar;", NONE, 1, 7);
         text("Bar;", NONE, 1, 0);
         text("bAr;", NONE, 1, 0);
         text("bar;;", NONE, 1, 4);
