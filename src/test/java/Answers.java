@@ -2,7 +2,7 @@ import java.util.ArrayList;
 import java.util.List;
 
 /**
- * What an object answers to some 250 calls that ask, and to some that tell on behind these. Two objects of which all
+ * What an object answers to some 240 calls that ask, and to some that tell on behind these. Two objects of which all
  * is told alike answer alike; an object is of no use behind it.
  */
 final class Answers {
@@ -23,6 +23,7 @@ final class Answers {
         a.askRules();
         a.askRounds();
         a.askReaders();
+        a.askByEarlierViews();
         a.tellOn();
         return a;
     }
@@ -134,6 +135,17 @@ final class Answers {
         }
     }
 
+    /** When things were told. */
+    private void askByEarlierViews() {
+        for (int view = 0; view < 6; view++) {
+            put("view(" + view + ")", x.view(view));
+            put("count(10) by " + view, x.count(10));
+            put("count(11) by " + view, x.count(11));
+            put("parts by " + view, x.parts(0, 1, 9));
+        }
+        put("view(NONE)", x.view(HerdBooks.NONE));
+    }
+
     /** How much is on the tape and what stands there, which rows have room, and from which numbers on. */
     private void tellOn() {
         put("feed", x.feed(0x20202020, 0x20202020, 0x20202020, 0x20202020, 0x20202020));
@@ -157,5 +169,9 @@ final class Answers {
         put("wish", x.wish(0, 0, 1));
         put("week", x.week(8));
         put("view", x.view(8));
+        Check.rules(x, "if left < 12: cost 1; if left < 37: cost 2; if left < 41: cost 3; if left < 61: cost 4;");
+        for (int book = 0; book < 4; book++) {
+            put("left of " + book, x.rule(0, book, 8, 2));
+        }
     }
 }

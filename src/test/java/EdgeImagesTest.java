@@ -23,6 +23,7 @@ public final class EdgeImagesTest {
         imagesApart();
         imageToldAnew();
         imageOfAnImage();
+        theLastCall();
         CHECK.close();
     }
 
@@ -350,6 +351,23 @@ public final class EdgeImagesTest {
         CHECK.yes("to any", x.week(1));
     }
 
+    /** "An object is used for at most 512 calls": the 512th is still answered as due. */
+    private static void theLastCall() {
+        HerdBooks x = new HerdBooks();
+        x.cell(true);
+        x.camp(0, 0);
+        x.book(0, 0, 0, 400, 1);
+        x.lend(0, 0);
+        x.image(0);
+        for (int i = 5; i < 509; i += 2) {
+            x.feed(BLANKS, BLANKS, BLANKS, BLANKS, BLANKS);
+            due("blanks", x.rules(), 0);
+        }
+        due("call 510 is an act", x.tear(0, 400, 0), 1);
+        CHECK.yes("call 511", x.again(0));
+        due("call 512", x.count(4), 1);
+    }
+
     private static HerdBooks one() {
         HerdBooks x = new HerdBooks();
         tellOne(x);
@@ -367,15 +385,15 @@ public final class EdgeImagesTest {
         x.cell(false);
         x.way(0, 1, 3);
         x.grass(0, 1, 5);
-        x.grass(1, 3, 9);
         x.camp(1, 0);
-        Check.rules(x, "if held > 1: bar; weeks 3; if torn > 0: cost 6;");
+        Check.rules(x, "if held > 1: bar; weeks 3; if torn = 0: cost 6;");
         x.book(0, 0, 2, 40, 100);
         x.book(1, 1, 1, 50, 200);
         x.book(2, 0, 3, 60, 300);
         x.book(3, 0, 0, 70, 400);
         x.lend(0, 0);
         x.week(2);
+        x.grass(1, 3, 9);
         x.camp(0, 1);
         x.news(0, 1, 1, true);
         x.tear(0, 4, 1);

@@ -27,6 +27,8 @@ public final class EdgeLandTest {
         restsToTheGreatest();
         allStayWithoutGrass();
         onePartMoves();
+        millionTogether();
+        restOfAMillion();
         sixtyNews();
         newsWeeks();
         newsOfNoneSuch();
@@ -427,6 +429,42 @@ public final class EdgeLandTest {
         parts(x, 0, 3, 418574, 418624, 162801, 1, 0);
         parts(x, 0, 4, 837198, 0, 162801, 0, 1);
         parts(x, 0, 5, 0, 999999, 0, 0, 1);
+    }
+
+    /** "PARTS of a CAMP in a WEEK, 1000000 together": in each of the 100 WEEKS. */
+    private static void millionTogether() {
+        HerdBooks x = row(4);
+        x.grass(0, 3, 7);
+        x.grass(2, 5, 13);
+        x.grass(3, 50, 0);
+        x.week(30);
+        x.news(0, 0, 10, false);
+        x.news(0, 2, 20, false);
+        x.news(0, 3, 30, true);
+        for (int week = 0; week < 100; week++) {
+            int all = 0;
+            for (int cell = 0; cell < 4; cell++) {
+                all += x.parts(0, cell, week);
+            }
+            due("all in week " + week, all, MILLION);
+        }
+    }
+
+    /** "of each other CELL there are 1000000 * p / all of these, cut, and the rest of a million as above". */
+    private static void restOfAMillion() {
+        HerdBooks x = row(4);
+        x.way(0, 2, 1);
+        x.way(0, 3, 1);
+        x.week(1);
+        parts(x, 0, 1, 250000, 250000, 250000, 250000);
+        x.news(0, 0, 1, false);
+        parts(x, 0, 1, 0, 333334, 333333, 333333);
+        // 333334 and 333333 of 666667: 500000 and 499999, rests 500000 and 166667, and one is left.
+        x.news(0, 3, 1, false);
+        parts(x, 0, 1, 0, 500001, 499999, 0);
+        x.news(0, 1, 1, false);
+        parts(x, 0, 1, 0, 0, MILLION, 0);
+        due("all fit", x.quarrel(0, 0), NONE);
     }
 
     /** "NEWS, at most 60, from 0 on"; "NONE: there are 60". */

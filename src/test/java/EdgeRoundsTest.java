@@ -618,6 +618,18 @@ public final class EdgeRoundsTest {
         load(x, 0, 100, 0, 0);
         x.view(4);
         load(x, 0, 100, 0, 0);
+        // LENT and BACK in one WEEK: by that WEEK the SHED has it, and the CAMP had it.
+        HerdBooks z = cells(1, 0);
+        z.camp(0, 0);
+        z.book(0, 0, 0, 9, 10);
+        z.wish(0, 0, 7);
+        z.week(3);
+        z.lend(0, 0);
+        z.back(0);
+        z.view(3);
+        load(z, 0, 100, 0, 0);
+        z.view(2);
+        load(z, 0, 100, 7, 10, 0);
         HerdBooks y = cells(1, 0);
         y.camp(0, 0);
         y.camp(0, 1);
