@@ -632,6 +632,12 @@ public final class EdgeLandTest {
         due("the last cell", y.likeliest(0, 0), 9);
         y.way(8, 9, 1);
         due("the one before it", y.likeliest(0, 1), 8);
+        // A WEEK behind it is asked for first, in which all are in CELL 0.
+        HerdBooks z = row(2);
+        z.week(2);
+        z.news(0, 0, 2, true);
+        due("the later week", z.likeliest(0, 2), 0);
+        due("the earlier week", z.likeliest(0, 1), 0);
     }
 
     /** "The k-th QUARREL of a CAMP, from 0 on, of NEWS by their WEEKS, of one WEEK by numbers". */

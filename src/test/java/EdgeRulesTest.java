@@ -299,6 +299,13 @@ public final class EdgeRulesTest {
         bad("if held 12345:bar;", 1, 8);
         bad("cost 1234 5;", 1, 10);
         bad("weeks 0;cost 12345;", 1, 13);
+        // Be their numbers those of signs: 58 to 62 are : ; < = >
+        bad("bar 00059", 1, 4);
+        bad("bar00059", 1, 3);
+        bad("if dry 00058 bar;", 1, 7);
+        bad("if held 00060 3:bar;", 1, 8);
+        bad("if held 00061 3:bar;", 1, 8);
+        bad("if held 00062 3:bar;", 1, 8);
     }
 
     private static void cuts(String text, int... places) {
