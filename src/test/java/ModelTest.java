@@ -62,7 +62,10 @@ public final class ModelTest {
 
     private void same(String call, int got, int want) {
         calls++;
-        check.due("run with " + call + " as call " + calls, got, want);
+        // A text's calls may lead beyond the 512th, and what is answered there is free.
+        if (calls <= CALLS) {
+            check.due("run with " + call + " as call " + calls, got, want);
+        }
     }
 
     private void same(String call, boolean got, boolean want) {
